@@ -235,6 +235,7 @@ public final class NineWays {
             return 0;
         }
         planner.load(now, row);
+        planner.findTakeable();
         return planner.canTake(packed[row].starts[word], way) ? 2 : 1;
     }
 
@@ -906,7 +907,7 @@ public final class NineWays {
         }
 
         boolean hasNumber(int row, int i) {
-            return i >= 0 && i < lengthOf(row);
+            return has(row) && i >= 0 && i < lengths[row];
         }
 
         int rowNamed(long name) {
@@ -1044,13 +1045,11 @@ public final class NineWays {
                 System.arraycopy(rows.numbers[row], 0, numbers, length, more);
                 length += more;
             }
-            findTakeable();
         }
 
         void replace(int i, int value) {
             if (i >= 0 && i < length) {
                 numbers[i] = value;
-                findTakeable();
             }
         }
 
@@ -1058,12 +1057,11 @@ public final class NineWays {
             if (i >= 0 && i < length) {
                 System.arraycopy(numbers, i + 1, numbers, i, length - i - 1);
                 length--;
-                findTakeable();
             }
         }
 
         // From the end on, a run tells how many numbers in a row a way can hold.
-        private void findTakeable() {
+        void findTakeable() {
             for (int way = 0; way < WAYS; way++) {
                 runs[way] = 0;
             }
@@ -1083,6 +1081,7 @@ public final class NineWays {
         }
 
         void choose(int rule, int[] prices) {
+            findTakeable();
             for (int way = 0; way < WAYS; way++) {
                 costs[way] = rule == 2 ? prices[way] * PRICE_SCALE + 1 : 1;
             }
@@ -1306,25 +1305,22 @@ public final class NineWays {
             return i < 0 || i >= length || i >= MOST_BYTES ? 0 : bytes[i];
         }
 
-        private boolean hasLetter(int i) {
-            return byteAt(i) >= 'a' && byteAt(i) <= 'z';
+        private static boolean isLetter(int sign) {
+            return sign >= 'a' && sign <= 'z';
         }
 
-        private boolean hasDigit(int i) {
-            return byteAt(i) >= '0' && byteAt(i) <= '9';
+        private static boolean isDigit(int sign) {
+            return sign >= '0' && sign <= '9';
         }
 
-        private boolean hasBlank(int i) {
-            return byteAt(i) == ' ' || byteAt(i) == '\n';
+        private static boolean isBlank(int sign) {
+            return sign == ' ' || sign == '\n';
         }
 
         // The whole buffer as a name; 0 if it is none.
         long wholeName() {
             start = 0;
             next = 0;
-            if (!hasLetter(0)) {
-                return 0;
-            }
             takeWord();
             return kind == WORD && next == length ? name : 0;
         }
@@ -1337,15 +1333,15 @@ public final class NineWays {
         }
 
         void advance() {
-            while (next < length && hasBlank(next)) {
+            while (next < length && isBlank(byteAt(next))) {
                 next++;
             }
             start = next;
             if (next >= length) {
                 kind = END;
-            } else if (hasLetter(next)) {
+            } else if (isLetter(byteAt(next))) {
                 takeWord();
-            } else if (hasDigit(next)) {
+            } else if (isDigit(byteAt(next))) {
                 takeNumber();
             } else {
                 kind = kindOfSign(byteAt(next));
@@ -1368,18 +1364,18 @@ public final class NineWays {
 
         private void takeWord() {
             name = 0;
-            while (next < length && hasLetter(next)) {
+            while (next < length && isLetter(byteAt(next))) {
                 if (next - start < MOST_LETTERS) {
                     name = withLetter(name, next - start, byteAt(next) - 'a' + 1);
                 }
                 next++;
             }
-            kind = next - start > MOST_LETTERS ? WRONG : WORD;
+            kind = next == start || next - start > MOST_LETTERS ? WRONG : WORD;
         }
 
         private void takeNumber() {
             number = 0;
-            while (next < length && hasDigit(next)) {
+            while (next < length && isDigit(byteAt(next))) {
                 if (next - start < MOST_DIGITS) {
                     number = number * 10 + byteAt(next) - '0';
                 }

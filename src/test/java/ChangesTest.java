@@ -164,6 +164,18 @@ public final class ChangesTest {
         x.setPrice(8, 1);
         Checks.due("43 the words follow the price", x.row(0, 1), 1);
         Checks.due("45 each is an act", x.account(0), 10);
+        NineWays y = Checks.of("pack 2 4;row a 1 5;row b 0;");
+        y.put(0, 1, 3);
+        y.setSkip(2);
+        y.append(0, 1);
+        y.join(0, 1);
+        y.setRule(1);
+        y.remove(0, 0);
+        y.insert(0, 2, 7);
+        Checks.due("41 to 43, each changes nothing else", Checks.all(y), "1 2 1 1 1 1 1 1 1 1 1 a:2(3,1,7,0)\n b:0(0)\n");
+        y.setRule(2);
+        y.join(1, 0);
+        Checks.due("40 changes nothing else", y.setting(1), 2);
     }
 
     private static void promise44() {

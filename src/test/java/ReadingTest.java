@@ -166,6 +166,8 @@ public final class ReadingTest {
         Checks.due("28 greedy", y.wordsBy(0, 0), 2);
         Checks.due("29 the lower way counts", y.priceBy(1, 1), 9);
         Checks.due("29 the lower price counts", y.priceBy(1, 2), 1);
+        NineWays z = Checks.of("pack 0 4;row a 1 1 1 1 1 1 1 9000 5;price 3 10;price 7 20;price 8 50;row b;");
+        Checks.due("29 each word counts", z.priceBy(0, 0), 30);
         for (int rule = 0; rule < 3; rule++) {
             Checks.due("28 without numbers", x.wordsBy(1, rule), 0);
             Checks.due("29 without numbers", x.priceBy(1, rule), 0);
@@ -237,6 +239,10 @@ public final class ReadingTest {
         Checks.due("32 nothing changes", v.way(0, 2), 1);
         NineWays u = Checks.of("pack 0 4;row a 9000 20000 9000 9000;price 8 0;");
         Checks.due("32 a part", u.dearWay(0), 7);
+        // a dearer way 0 leaves nothing cheaper than both numbers in one word
+        String dear = "price 2 99;price 3 99;price 4 99;price 5 99;price 6 99;price 7 99;price 8 50;price 0 0;";
+        Checks.due("32 dearer", Checks.of("pack 0 4;row a 9000 1;price 1 99;" + dear).dearWay(0), 0);
+        Checks.due("32 one price alone", Checks.of("pack 0 4;row a 9000 1;price 1 0;" + dear).dearWay(0), 7);
         Checks.badIndex("32 no row", () -> x.dearWay(3));
         Checks.badIndex("32 row below", () -> x.dearWay(-1));
     }

@@ -224,6 +224,7 @@ public final class TextTest {
         error("pack 0 4;price 8;", "1 at 16");
         error("pack 0 4;price 8 1;price 7 1;price 8 1;", "3 at 35");
         error("pack 0 4;price 8 1;price 8;", "3 at 25");
+        error("pack 0 4;fill;", "1 at 13");
         error("pack 0 4;fill a 1 1;", "4 at 14");
         error("pack 0 4;fill a 1 1;row a;", "4 at 14");
         error("pack 0 4;row a;fill 1 1 1;", "1 at 20");
@@ -236,6 +237,7 @@ public final class TextTest {
         error("pack 0 4;row a 1;fill a 59 1;fill a 1 1;", "5 at 36");
         error("pack 0 4;row a;fill a 5;", "1 at 23");
         error("pack 0 4;row a;fill a 5 268435455;", "0 at -1");
+        error("pack 0 4;row a;fill a 5 0;", "0 at -1");
         error("pack 0 4;row a;fill a 5 268435456;", "2 at 24");
         error("pack 0 4;row a;fill a 5 1 1;", "1 at 26");
         Checks.due("4 fill", Checks.report(Checks.of("pack 0 4;row a 7;fill a 3 5;"), 0), "a:2(7,5,5,5)\n");
@@ -286,5 +288,12 @@ public final class TextTest {
         scriptError("skip 1;".repeat(29) + "repeat 2(skip 1;);", "5 at 212");
         scriptError("skip 1;".repeat(28) + "repeat 2(skip 1;);", "0 at -1");
         scriptError("skip 1;".repeat(28) + "repeat 2(repeat 2(repeat 2();););", "3 at 214");
+        NineWays x = new NineWays();
+        Checks.load(x, "repeat 2(repeat 2(");
+        Checks.badArgument("5 it ends in brackets", x::runScript);
+        Checks.due("5 the next one starts outside of them", Checks.run(x, "skip 1;"), 1);
+        Checks.load(x, "skip 1;)");
+        Checks.badArgument("5 and ends there", x::runScript);
+        Checks.due("7 behind brackets", x.errorPosition(), 7);
     }
 }

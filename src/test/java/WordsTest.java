@@ -167,6 +167,11 @@ public final class WordsTest {
         }
         Checks.due("17 the last word", x.why(0, 1, 5), 2);
         Checks.due("17 the last word, too narrow", x.why(0, 1, 4), 1);
+        NineWays y = Checks.of("pack 0 4;row a 1 5 9 100;row b 1;");
+        for (int way = 0; way < 9; way++) {
+            Checks.due("17 ahead of another row, way " + way, y.why(0, 0, way), wants[way]);
+            Checks.due("17 another row, way " + way, y.why(1, 0, way), way == 0 ? 0 : 2);
+        }
         Checks.badIndex("17 no way", () -> x.why(0, 0, 9));
         Checks.badIndex("17 way below", () -> x.why(0, 0, -1));
         Checks.badIndex("17 no word", () -> x.why(0, 2, 0));
