@@ -174,6 +174,7 @@ public final class ChangesTest {
         y.insert(0, 2, 7);
         Checks.due("41 to 43, each changes nothing else", Checks.all(y), "1 2 1 1 1 1 1 1 1 1 1 a:2(3,1,7,0)\n b:0(0)\n");
         y.setRule(2);
+        y.setSkip(1);
         y.join(1, 0);
         Checks.due("40 changes nothing else", y.setting(1), 2);
     }

@@ -217,11 +217,14 @@ public final class WordsTest {
     }
 
     private static void rules() {
-        // a way that holds many is taken as soon as it can be, though two words less would do by another one
         reportIs("pack 0 4;row a 1 0 1 3 2 7 100 5;", "a:4(1,0,1,3,2)5(7,100,5)");
         reportIs("pack 0 4;row a;", "a:");
         reportIs("pack 0 4;row a;fill a 28 1;", "a:0(" + "1,".repeat(27) + "1)");
         reportIs("pack 0 4;row a;fill a 29 1;", "a:0(" + "1,".repeat(27) + "1)0(1)");
+        // a way that holds more can lead to more words in all
+        reportIs("pack 0 4;row a 20 1 1 1 9 9 9 9 9 9 9 20000;", "a:4(20,1,1,1,9)4(9,9,9,9,9)8(9)8(20000)");
+        reportIs("pack 1 4;row a 20 1 1 1 9 9 9 9 9 9 9 20000;", "a:5(20,1,1,1)3(9,9,9,9,9,9,9)8(20000)");
+        reportIs("pack 2 4;row a 20 1 1 1 9 9 9 9 9 9 9 20000;", "a:5(20,1,1,1)3(9,9,9,9,9,9,9)8(20000)");
         // of as few words, the lower way comes first
         reportIs("pack 1 4;row a 5 5;", "a:2(5,5)");
         reportIs("pack 1 4;row a 5 300 5 300;", "a:6(5,300,5)6(300)");
