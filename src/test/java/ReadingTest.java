@@ -153,7 +153,6 @@ public final class ReadingTest {
     }
 
     private static void promises28and29() {
-        // rule 0: 4(5 of 1) 3(...) is greedy; by rule 1 the sixth goes into the first word of 4 bits
         NineWays x = Checks.of("pack 0 4;row a 1 1 1 1 1 1 1 9 9 9 9 9 9 9;row b;price 3 50;price 8 2;");
         Checks.due("28 report", Checks.report(x, 0), "a:3(1,1,1,1,1,1,1)3(9,9,9,9,9,9,9)\n");
         Checks.due("28 rule 0", x.wordsBy(0, 0), 2);
@@ -166,6 +165,11 @@ public final class ReadingTest {
         Checks.due("28 greedy", y.wordsBy(0, 0), 2);
         Checks.due("29 the lower way counts", y.priceBy(1, 1), 9);
         Checks.due("29 the lower price counts", y.priceBy(1, 2), 1);
+        NineWays w = Checks.of("pack 0 4;row a 20 1 1 1 9 9 9 9 9 9 9 20000;price 4 7;row b;");
+        Checks.due("28 a way that holds more can lead to more words", w.wordsBy(0, 0), 4);
+        Checks.due("28 the fewest", w.wordsBy(0, 1), 3);
+        Checks.due("29 of more words", w.priceBy(0, 0), 16);
+        Checks.due("29 of the fewest", w.priceBy(0, 1), 3);
         NineWays z = Checks.of("pack 0 4;row a 1 1 1 1 1 1 1 9000 5;price 3 10;price 7 20;price 8 50;row b;");
         Checks.due("29 each word counts", z.priceBy(0, 0), 30);
         for (int rule = 0; rule < 3; rule++) {
