@@ -20,6 +20,7 @@ public final class NineWays {
     private static final int LETTER_BITS = 5;
     private static final int MOST_DIGITS = 9;
     private static final int MOST_BYTES = 600;
+    private static final int FEED_BYTES = 20;
     private static final int MOST_RULE = 2;
     private static final int MOST_SKIP = 9;
     private static final int MOST_PRICE = 99;
@@ -47,6 +48,7 @@ public final class NineWays {
     private final Script script = new Script();
     private final Rows now = new Rows();
     private final Rows draft = new Rows();
+    private final SystemReader systemReader = new SystemReader(text, draft);
     private final Rows saved = new Rows();
     private final History past = new History();
     private final Packing[] packed = new Packing[MOST_ROWS];
@@ -66,7 +68,7 @@ public final class NineWays {
     // ---- texts
 
     public int feed(int a, int b, int c, int d, int e) throws IllegalStateException {
-        if (text.length + 20 > MOST_BYTES) {
+        if (text.length + FEED_BYTES > MOST_BYTES) {
             throw new IllegalStateException();
         }
         text.addBytesOf(a);
@@ -86,7 +88,7 @@ public final class NineWays {
     }
 
     public int readText() throws IllegalArgumentException {
-        boolean good = new SystemReader(text, draft).readSystem();
+        boolean good = systemReader.readSystem();
         text.length = 0;
         if (!good) {
             throw new IllegalArgumentException();
@@ -1428,6 +1430,7 @@ public final class NineWays {
 
         boolean readSystem() {
             rows.clearAll();
+            toldPrices = 0;
             text.begin();
             if (!readPack() || !text.passes(Text.SEMICOLON)) {
                 return false;

@@ -86,6 +86,8 @@ public final class TextTest {
         Checks.due("4 saved stays", x.restore(), 6);
         Checks.due("4 what was saved", Checks.all(x), "2 7 1 1 1 40 1 1 1 1 1 ab:1(1,2,1)\n c:4(9,9,9)\n");
 
+        Checks.load(x, "pack 2 7;row ab 1 2 1;price 3 40;row c;fill c 3 9;");
+        Checks.due("4 a price can be told again in another text", x.readText(), 2);
         x.append(0, 3);
         String before = Checks.all(x);
         Checks.load(x, "pack 1 2;row y 6;row y;");
