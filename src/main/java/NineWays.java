@@ -1027,6 +1027,7 @@ public final class NineWays {
     private static final class Planner {
         // More than the words that there can be, so that the sum of PRICES always comes ahead of their number.
         private static final int PRICE_SCALE = 1024;
+        private static final int ABOVE_ALL_COSTS = 1 << 30;
 
         private final int[] numbers = new int[MOST_TOGETHER];
         private final int[] takeable = new int[MOST_TOGETHER];
@@ -1108,7 +1109,7 @@ public final class NineWays {
         private void chooseCheapest() {
             best[length] = 0;
             for (int i = length - 1; i >= 0; i--) {
-                best[i] = Integer.MAX_VALUE;
+                best[i] = ABOVE_ALL_COSTS;
                 for (int way = 0; way < WAYS; way++) {
                     if (canTake(i, way)) {
                         int cost = costs[way] + best[Math.min(i + countOf(way), length)];

@@ -1,3 +1,8 @@
+import java.io.IOException;
+import java.nio.file.Files;
+import java.nio.file.Path;
+import java.util.ArrayList;
+import java.util.List;
 import java.util.Objects;
 
 /** What the tests share: comparing answers, and feeding texts. */
@@ -8,15 +13,36 @@ final class Checks {
 
     private static int made = 0;
     private static int wrong = 0;
+    private static final List<String> SENTENCES = new ArrayList<>();
+    private static int madeAheadOfSentence = 0;
 
     private Checks() {
+    }
+
+    /** What comes next, up to another sentence, looks at this one of the document. */
+    static void says(String sentence) {
+        endSentence();
+        SENTENCES.add(sentence);
+        madeAheadOfSentence = made;
+    }
+
+    private static void endSentence() {
+        if (!SENTENCES.isEmpty() && made == madeAheadOfSentence) {
+            wrong++;
+            System.out.println("nothing looks at \"" + latestSentence() + "\"");
+        }
+    }
+
+    private static String latestSentence() {
+        return SENTENCES.get(SENTENCES.size() - 1);
     }
 
     static void due(String what, Object got, Object want) {
         made++;
         if (!Objects.equals(got, want)) {
             wrong++;
-            System.out.println(what + ": answered " + got + ", due is " + want);
+            String sentence = SENTENCES.isEmpty() ? "" : "\"" + latestSentence() + "\": ";
+            System.out.println(sentence + what + ": answered " + got + ", due is " + want);
         }
     }
 
@@ -127,7 +153,30 @@ final class Checks {
         return x.errorCode() + " at " + x.errorPosition();
     }
 
+    // A note alone: the answers that are due do not hang on how the document words them.
+    private static void noteSentencesThatAreNot() {
+        try {
+            String document = folded(Files.readString(Path.of("../shared/DOC.md")));
+            for (String sentence : SENTENCES) {
+                if (!document.contains(folded(sentence))) {
+                    System.out.println("note: the document does not say \"" + sentence + "\"");
+                }
+            }
+        } catch (IOException e) {
+            System.out.println("note: the document can't be read");
+        }
+    }
+
+    private static String folded(String text) {
+        return text.replaceAll("\\s+", " ");
+    }
+
     static void end(String test) {
+        if (!SENTENCES.isEmpty()) {
+            endSentence();
+            noteSentencesThatAreNot();
+            System.out.println(test + ": " + SENTENCES.size() + " sentences");
+        }
         System.out.println(test + ": " + made + " answers, " + wrong + " not as due");
         if (wrong != 0 || made == 0) {
             System.exit(1);
