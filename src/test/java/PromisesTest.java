@@ -609,6 +609,12 @@ public final class PromisesTest {
         dearWayIs("row a 20 20 20 20 20 100 100 100 100;price 6 0;", 6);
         // there are fewer words, but no single PRICE does: way 7 is for nothing, too
         dearWayIs("row a 20 20 20 20 20 100 100 100 100;price 6 0;price 7 0;", -1);
+        // 5 and twice 7 are as dear as 4 and 6, for 198, once way 7 is for 99; no other way does
+        dearWayIs("row a 15 15 15 15 15 100 100 500;price 4 99;price 5 0;price 6 99;price 7 1;price 8 99;", 7);
+        // three words by way 6 for nothing; way 4 for nothing, too, makes them two
+        dearWayIs("row a 15 15 15 15 15 31 31 31 31;price 4 99;price 6 0;", 4);
+        // three words by way 7 for nothing; way 3 for the last one would have to be less than that
+        dearWayIs("row a 31 31 31 31 31 15;price 3 99;price 6 99;price 7 0;", 4);
         // as many words as by RULE 0, and one more than by RULE 1
         dearWayIs("row a 20 1 1 1 9 9 9 9 9 9 9 20000;price 5 9;", 5);
     }
