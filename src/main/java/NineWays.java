@@ -47,8 +47,7 @@ public final class NineWays {
     private final Text text = new Text();
     private final Script script = new Script();
     private final Rows now = new Rows();
-    private final Rows draft = new Rows();
-    private final SystemReader systemReader = new SystemReader(text, draft);
+    private final SystemReader system = new SystemReader();
     private final Rows saved = new Rows();
     private final History past = new History();
     private final Packing[] packed = new Packing[MOST_ROWS];
@@ -88,12 +87,12 @@ public final class NineWays {
     }
 
     public int readText() throws IllegalArgumentException {
-        boolean good = systemReader.readSystem();
+        boolean good = system.readFrom(text);
         text.length = 0;
         if (!good) {
             throw new IllegalArgumentException();
         }
-        now.copyFrom(draft);
+        now.copyFrom(system.rows);
         past.forget();
         packRows();
         return now.size;
@@ -738,20 +737,24 @@ public final class NineWays {
         return FINE;
     }
 
-    // The guard on depth can't be met: the reader lets no "repeat" in that stands deeper.
     private void doSteps(int from, int to, int depth) {
-        if (depth > MOST_DEPTH) {
-            return;
-        }
         for (int k = from; k < to && k < script.size && script.going; k = Math.max(k + 1, script.steps[k].end)) {
             Change step = script.steps[k];
             if (step.command == Command.REPEAT) {
-                for (int times = 0; times < step.value && script.going; times++) {
-                    doSteps(k + 1, step.end, depth + 1);
-                }
+                doRepeat(step, k + 1, depth);
             } else {
                 doStep(step);
             }
+        }
+    }
+
+    // The guard on depth can't be met: the reader lets no "repeat" in that stands deeper.
+    private void doRepeat(Change step, int from, int depth) {
+        if (depth >= MOST_DEPTH) {
+            return;
+        }
+        for (int times = 0; times < step.value && script.going; times++) {
+            doSteps(from, step.end, depth + 1);
         }
     }
 
@@ -1418,33 +1421,27 @@ public final class NineWays {
         }
     }
 
-    /** Reads a system into rows; each method answers whether it met no error. */
+    /** The rows of a system; each method that reads answers whether it met no error. */
     private static final class SystemReader {
-        private final Text text;
-        private final Rows rows;
+        final Rows rows = new Rows();
         private int toldPrices;
 
-        SystemReader(Text text, Rows rows) {
-            this.text = text;
-            this.rows = rows;
-        }
-
-        boolean readSystem() {
+        boolean readFrom(Text text) {
             rows.clearAll();
             toldPrices = 0;
             text.begin();
-            if (!readPack() || !text.passes(Text.SEMICOLON)) {
+            if (!readPack(text) || !text.passes(Text.SEMICOLON)) {
                 return false;
             }
             for (int k = 0; k < MOST_BYTES && text.kind != Text.END; k++) {
-                if (!readStatement() || !text.passes(Text.SEMICOLON)) {
+                if (!readStatement(text) || !text.passes(Text.SEMICOLON)) {
                     return false;
                 }
             }
             return true;
         }
 
-        private boolean readPack() {
+        private boolean readPack(Text text) {
             if (!text.isWord("pack")) {
                 return text.fail(1);
             }
@@ -1462,17 +1459,17 @@ public final class NineWays {
             return true;
         }
 
-        private boolean readStatement() {
+        private boolean readStatement(Text text) {
             if (text.isWord("row")) {
-                return readRow();
+                return readRow(text);
             }
             if (text.isWord("price")) {
-                return readPrice();
+                return readPrice(text);
             }
-            return text.isWord("fill") ? readFill() : text.fail(1);
+            return text.isWord("fill") ? readFill(text) : text.fail(1);
         }
 
-        private boolean readRow() {
+        private boolean readRow(Text text) {
             if (rows.size >= MOST_ROWS) {
                 return text.fail(5);
             }
@@ -1485,10 +1482,10 @@ public final class NineWays {
             }
             rows.addRow(text.name);
             text.advance();
-            return readNumbers(rows.size - 1);
+            return readNumbers(text, rows.size - 1);
         }
 
-        private boolean readNumbers(int row) {
+        private boolean readNumbers(Text text, int row) {
             for (int k = 0; k <= MOST_NUMBERS && text.kind == Text.NUMBER; k++) {
                 if (!text.seesNumber(0, GREATEST_NUMBER)) {
                     return false;
@@ -1502,7 +1499,7 @@ public final class NineWays {
             return true;
         }
 
-        private boolean readPrice() {
+        private boolean readPrice(Text text) {
             text.advance();
             if (!text.seesNumber(0, WAYS - 1)) {
                 return false;
@@ -1521,7 +1518,7 @@ public final class NineWays {
             return true;
         }
 
-        private boolean readFill() {
+        private boolean readFill(Text text) {
             text.advance();
             if (!text.sees(Text.WORD)) {
                 return false;

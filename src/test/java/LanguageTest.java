@@ -17,6 +17,7 @@ public final class LanguageTest {
         face();
         classes();
         source();
+        constructors();
         Checks.end("LanguageTest");
     }
 
@@ -109,11 +110,27 @@ public final class LanguageTest {
         for (String pattern : none) {
             Checks.due("\"" + pattern + "\" in the source", Pattern.compile(pattern).matcher(code).find(), false);
         }
-        Matcher method = Pattern.compile("(?m)^( +)(?:public |private |static |final )*[\\w\\[\\]]+ \\w+\\([^)]*\\).*\\{$").matcher(all);
+        Matcher method = Pattern.compile("(?m)^( +)(?:public |private |static |final )*[\\w\\[\\]]+ (\\w+)\\([^)]*\\).*\\{$").matcher(all);
         while (method.find()) {
             int end = all.indexOf("\n" + method.group(1) + "}", method.end());
             long lines = all.substring(method.start(), end).lines().count() + 1;
             Checks.due(method.group().trim() + " has at most sixty lines", lines <= 60, true);
+            boolean callsItself = Pattern.compile("(?<![.\\w])" + method.group(2) + "\\(").matcher(all.substring(method.end(), end)).find();
+            boolean isPrivateStatic = method.group().contains("private static ");
+            Checks.due(method.group().trim() + " calls itself, and is not private and static", callsItself && !isPrivateStatic, false);
         }
+    }
+
+    // Rule 12: an object that is being made gives nothing of its own to another one's constructor.
+    private static void constructors() throws Exception {
+        String all = Files.readString(Path.of("src/main/java/NineWays.java"));
+        Matcher field = Pattern.compile("(?m)^ +(?:private |final )*\\w+ (\\w+) = new \\w+\\(([^)]*)\\);$").matcher(all);
+        int fields = 0;
+        while (field.find()) {
+            fields++;
+            Checks.due(field.group(1) + " is made of", field.group(2), "");
+        }
+        Checks.due("fields that are objects were found", fields > 5, true);
+        Checks.due("an object tells itself to another one", Pattern.compile("[(,] *this *[,)]").matcher(all).find(), false);
     }
 }
